@@ -1097,12 +1097,8 @@ public final class ChoirRoof {
             kind[i] = itsKind;
             v[i] = itsV;
             low[i] = itsLow;
+            // All else of a free slot is 0: nobody wrote there, and an undo brings an image's free slots.
             note[i] = REST;
-            tired[i] = 0;
-            // An undo may have left another singer's row here.
-            for (int k = 0; k < ROW_SIZE; k++) {
-                rows[i * ROW_SIZE + k] = 0;
-            }
             singers++;
             return i;
         }
@@ -1113,8 +1109,6 @@ public final class ChoirRoof {
                 return FULL;
             }
             weight[i] = itsWeight;
-            propped[i] = 0;
-            fallen[i] = 0;
             stones++;
             return i;
         }

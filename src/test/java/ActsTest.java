@@ -163,6 +163,7 @@ public final class ActsTest {
     x.plan(-1, 0);
     x.book(-1, 0);
     x.book(0, 6);
+    x.book(0, 7);
     Due.is("looked()", x.looked(), 0);
     Due.is("undo()", x.undo(), 2);
     Due.is("row(1, 2, 0)", x.row(1, 2, 0), 5);
@@ -175,6 +176,13 @@ public final class ActsTest {
     Due.is("planned(1): the old plan", x.planned(1), 5);
     Due.is("setting(): the old tape", Due.read(x, "se 8"), 0);
     Due.is("told(1)", x.told(1), 8);
+    ChoirRoof y = Due.choir(0, 0, 0, 0, 0);
+    y.singer(6, 0, 0);
+    for (int k = 0; k < 4; k++) y.row(5, k, k + 1);
+    y.image();
+    for (int k = 0; k < 4; k++) y.row(5, k, 9);
+    y.undo();
+    for (int k = 0; k < 4; k++) Due.is("row(5, " + k + ", 0)", y.row(5, k, 0), k + 1);
   }
 
   /** Promise 41. */

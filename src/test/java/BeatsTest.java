@@ -66,6 +66,11 @@ public final class BeatsTest {
     Due.is("steady(), no stones", Due.choir(0, 4, 7).steady(), -5);
     Due.is("steady(), 25 by 24 at last", Due.stones(Due.choir(0, 4, 7), 25).steady(), 60);
     Due.is("steady(), 24 by 24 at last", Due.stones(Due.choir(0, 4, 7), 24).steady(), -5);
+    ChoirRoof y = Due.stones(Due.choir(0, 4, 7), 24);
+    Due.read(y, "draught 99 b=1&t>5");
+    Due.is("steady(), loose behind 61", y.steady(), -5);
+    Due.read(y, "draught 99 b=0&t>5");
+    Due.is("steady(), loose behind 60", y.steady(), 60);
   }
 
   /** Promise 16. */
@@ -113,6 +118,14 @@ public final class BeatsTest {
     Due.read(y, "loud 9 n=23;loud 8 n=21");
     Due.is("chord(0): 23 at most", y.chord(0), 23);
     Due.is("chord(-1): 23 at most", y.chord(-1), 9);
+    for (int d = 0; d <= 12; d++) {
+      ChoirRoof w = new ChoirRoof();
+      w.singer(0, 0, 1);
+      Due.read(w, "loud 9 n=" + (1 + d));
+      boolean is = d == 0 || d == 2 || d == 4 || d == 5 || d == 7;
+      Due.is("chord(0), loud " + d + " above", w.chord(0), is ? 1 + d : 1);
+      Due.is("chord(-1), loud " + d + " above", w.chord(-1), is ? 9 : 5);
+    }
     ChoirRoof z = Due.choir(-1, -1, -1, -1, -1);
     Due.is("chord(-1) of five: all on one note", z.chord(-1), 200);
     Due.is("chord(4)", z.chord(4), 0);
@@ -132,6 +145,8 @@ public final class BeatsTest {
     Due.is("needed(), nobody", new ChoirRoof().needed(), -5);
     Due.is("needed(), all rest", Due.choir(-1, -1).needed(), -5);
     Due.is("needed()", Due.choir(0, 4, 7, 1).needed(), 1);
+    Due.is("needed(), the only one", Due.choir(0).needed(), 0);
+    Due.is("needed(), the first", Due.choir(4, 0, 1, -1).needed(), 0);
     Due.is("needed(): the first of several", Due.choir(-1, 0, 4).needed(), 1);
   }
 
@@ -165,6 +180,7 @@ public final class BeatsTest {
     long[] sets = new long[8];
     for (int n = 1; n <= 8; n++) sets[n - 1] = z.shift(n, 2);
     Due.are("shift(n, 2): each in its turn", sets, 3, 5, 10, 7, 7, 7, 11, 11);
+    Due.is("shift(3, 0): all others rest", z.shift(3, 0), 31 + 31 + 11 + 20);
     Due.is("of(0, 4): nothing is changed", z.of(0, 4), 0);
   }
 
@@ -198,6 +214,7 @@ public final class BeatsTest {
     Due.is("ill(-1)", x.ill(-1), -1);
     Due.is("ill(0): nobody else rests", Due.choir(0, 4).ill(0), -5);
     Due.is("ill(1): nobody else at all", Due.choir(0).ill(0), -5);
+    Due.is("ill(1): the first one rests", Due.choir(-1, 4).ill(1), 0);
     x.singer(3, 5, 20);
     Due.is("ill(0): a stronger one", x.ill(0), 420);
     Due.is("of(0, 3): nothing is changed", x.of(0, 3), 0);
@@ -206,8 +223,11 @@ public final class BeatsTest {
   /** Promise 22. */
   private static void canon() {
     ChoirRoof x = Due.stones(Due.choir(0, 4, -1), 20);
-    Due.is("canon(30, 1)", x.canon(9, 1), 20);
-    Due.is("canon(30, 0)", x.canon(9, 0), 0);
+    Due.is("canon(9, 1)", x.canon(9, 1), 20);
+    Due.is("canon(9, 0)", x.canon(9, 0), 0);
+    Due.is("canon(30, 0): who rests is eased", x.canon(30, 0), 0);
+    Due.is("canon(30, 1), nobody", new ChoirRoof().canon(30, 1), 0);
+    Due.is("canon(30, 0), nobody", Due.stones(new ChoirRoof(), 1, 1).canon(30, 0), 2);
     ChoirRoof y = new ChoirRoof();
     y.singer(0, 0, 0);
     y.singer(0, 0, 0);

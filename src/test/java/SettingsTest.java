@@ -134,6 +134,16 @@ public final class SettingsTest {
     Due.is("told(1): the 5. holds", x.told(1), 4);
     Due.is("a fault when full", Due.read(x, "x"), -4);
     Due.is("count(2)", x.count(2), 5);
+    ChoirRoof y = Due.choir(0);
+    Due.read(y, "loud 9 s=0;x");
+    Due.read(y, "ease 1");
+    Due.is("of(0, 5): nothing is left of a faulty one", y.of(0, 5), 10);
+    Due.read(y, "loud 5 s=0");
+    Due.read(y, "loud 9 s=0;weary 9;x");
+    Due.is("of(0, 5): the one that held holds", y.of(0, 5), 15);
+    Due.is("told(2): the one that held holds", y.told(2), 1);
+    Due.read(y, "ease 1");
+    Due.is("of(0, 5): nothing is left of the one before", y.of(0, 5), 10);
   }
 
   /** The force of singer 1, a STRONG one with v 3 that sings 20, TIRED 42, at BEAT 0, by a clause. */
@@ -151,10 +161,10 @@ public final class SettingsTest {
     Due.is("without", force("ease 3"), 9);
     String[] yes = {"s=1", "s<2", "s>0", "k=3", "v=3", "n=20", "n>19", "n<21", "t=4", "b=0", "b<1",
         "!s=0", "!!s=1", "s=1&k=3", "s=0|k=3", "s=1|k=0&v=0", "(s=1|k=0)&v=3", "!(s=1&k=0)", "!s=0&s=1",
-        "s=0&k=0|v=3", "!(s=0|k=0)", "!s=1|v=3", "(((n=20)))", "s=0|s=0|s=0|s=1", "s=1&s=1&s=1"};
+        "s=0&k=0|v=3", "!s<0", "s=1|s<0", "!(s=0|k=0)", "!s=1|v=3", "(((n=20)))", "s=0|s=0|s=0|s=1", "s=1&s=1&s=1"};
     String[] no = {"s=0", "s<1", "s>1", "k=4", "v=2", "n=21", "n>20", "n<20", "t=42", "t=5", "b=1", "b>0",
         "!s=1", "!!s=0", "s=1&k=0", "s=0|k=0", "(s=1|k=0)&v=0", "!(s=1&k=3)", "!s=0&s=0", "!(s=1|k=0)",
-        "s=0&k=0|v=0", "s=0&(k=3|v=3)", "!s=1&v=3", "s=1&s=1&s=0", "s=0&s=1|s=0"};
+        "s=0&k=0|v=0", "s<0", "s=1&s<0", "s=0&(k=3|v=3)", "!s=1&v=3", "s=1&s=1&s=0", "s=0&s=1|s=0"};
     for (String e : yes) {
       Due.is("loud by " + e, force("loud 7 " + e), 16);
       Due.is("draught by " + e, force("draught 7 " + e), 2);

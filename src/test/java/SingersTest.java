@@ -71,6 +71,14 @@ public final class SingersTest {
       Due.is("BREAKING at beat " + b, x.of(0, 5), b % 3 == 0 ? 0 : 8);
       x.beat();
     }
+    ChoirRoof w = new ChoirRoof();
+    w.singer(0, 0, 0);
+    w.singer(5, 2, 0);
+    w.sing(1, 1);
+    for (int b = 0; b < 8; b++) {
+      Due.is("BREAKING, number 1, at beat " + b, w.of(1, 5), b % 4 == 3 ? 0 : 8);
+      w.beat();
+    }
     ChoirRoof y = new ChoirRoof();
     y.singer(6, 4, 0);
     y.sing(0, 0);
@@ -248,5 +256,13 @@ public final class SingersTest {
     y.tire(0, 9);
     Due.is("what falls is judged before they tire", y.beat(), 0);
     Due.is("but then by the next beat", y.beat(), 1);
+    // More calls than are promised, but no other way leads to the last beat.
+    ChoirRoof z = Due.choir(0, -1);
+    for (int b = 0; b < 99999; b++) z.beat();
+    Due.is("told(0), the last beat", z.told(0), 99999);
+    Due.is("beat(), the last beat", z.beat(), -3);
+    Due.is("told(0), nothing has changed", z.told(0), 99999);
+    z.tire(1, 99);
+    Due.is("on(33, 11) goes beyond", z.on(33, 11), 0);
   }
 }

@@ -117,6 +117,17 @@ public final class StonesTest {
     Due.is("flat(): the last beat counts", y.flat(), 3);
     y.beat();
     Due.is("of(1, 3): nothing is changed", y.of(1, 3), 5);
+    ChoirRoof w = Due.stones(Due.choir(0, 4), 20);
+    w.dust(1, 0);
+    Due.is("flat(): 3 is in tune, 2 were not", w.flat(), 3);
+    ChoirRoof v = Due.stones(Due.choir(0, 4, 7), 42);
+    for (int i = 0; i < 3; i++) v.tire(i, 1);
+    v.dust(39, 0);
+    v.dust(40, 1);
+    Due.is("flat(): falls by the 40. beat", v.flat(), 3);
+    v.dust(-1, 0);
+    v.dust(40, 0);
+    Due.is("flat(): told that it does not", v.flat(), 0);
     ChoirRoof z = Due.stones(Due.choir(0), 6);
     z.beat();
     z.dust(0, 1);
