@@ -596,7 +596,7 @@ public final class ChoirRoof {
             return NONE;
         }
         int kind = now.kind[singer];
-        for (int step = 0; step < KINDS && kind >= 0; step++) {
+        for (int step = 0; step < KINDS && kind >= 0 && kind < KINDS; step++) {
             if (kind == k) {
                 return now.v[singer];
             }
@@ -958,22 +958,19 @@ public final class ChoirRoof {
             return true;
         }
 
-        private boolean isDigit() {
-            return peek() >= '0' && peek() <= '9';
-        }
-
         /** One or two digits, or -1; behind a leading 0 another digit is left as the fault. */
         private int readNumber() {
-            if (!isDigit()) {
+            int first = peek() - '0';
+            if (first < 0 || first > 9) {
                 return -1;
             }
-            int n = peek() - '0';
             place++;
-            if (n != 0 && isDigit()) {
-                n = 10 * n + peek() - '0';
-                place++;
+            int second = peek() - '0';
+            if (first == 0 || second < 0 || second > 9) {
+                return first;
             }
-            return n;
+            place++;
+            return 10 * first + second;
         }
 
         private boolean readEither(int open) {
