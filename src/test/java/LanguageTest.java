@@ -94,7 +94,7 @@ public final class LanguageTest {
     String bare = text.replaceAll("(?s)/\\*.*?\\*/", "").replaceAll("//[^\n]*", "");
     for (String banned : BANNED) {
       Matcher m = Pattern.compile(banned).matcher(bare);
-      Due.is("«" + banned + "» stands in the class", m.find() ? m.start() : -1, -1);
+      Due.is("[" + banned + "] stands in the class", m.find() ? m.start() : -1, -1);
     }
     // A method begins by four or eight blanks and a ( on its first line, and ends by the same blanks and a }.
     Matcher m = Pattern.compile("(?m)^( {4}| {8})(?! )[^\\n=;]*\\([^\\n;]*\\) \\{\\n((?s).*?)^\\1\\}").matcher(text);

@@ -41,9 +41,9 @@ public final class SettingsTest {
 
   private static void fault(String text, int place) {
     ChoirRoof x = new ChoirRoof();
-    Due.is("setting() of «" + text + "»", Due.read(x, text), place < 0 ? 0 : -10 - place);
-    Due.is("count(6) behind «" + text + "»", x.count(6), 0);
-    Due.is("count(2) behind «" + text + "»", x.count(2), place < 0 ? 1 : 0);
+    Due.is("setting() of [" + text + "]", Due.read(x, text), place < 0 ? 0 : -10 - place);
+    Due.is("count(6) behind [" + text + "]", x.count(6), 0);
+    Due.is("count(2) behind [" + text + "]", x.count(2), place < 0 ? 1 : 0);
   }
 
   /** Promise 3: the fault is the place of the first sign with which nothing can go on. */
@@ -153,7 +153,7 @@ public final class SettingsTest {
     x.singer(3, 3, 12);
     x.sing(1, 20);
     x.tire(1, 42);
-    Due.is("setting() of «" + clause + "»", Due.read(x, clause), 0);
+    Due.is("setting() of [" + clause + "]", Due.read(x, clause), 0);
     return x.of(1, 5);
   }
 
