@@ -1,16 +1,47 @@
+import java.util.ArrayList;
+import java.util.List;
+
 /** What the tests share: comparing answers, and choirs that many of them begin with. */
 final class Due {
+  /** The sentences of the document that had a test of their own: promise, words. */
+  private static final List<String[]> SENTENCES = new ArrayList<>();
+
   private static int asked = 0;
   private static int wrong = 0;
+  private static int askedAhead = 0;
 
   private Due() {
+  }
+
+  /** From here on all that is compared belongs to these words of the document, of this promise. */
+  static void sentence(int promise, String words) {
+    endSentence();
+    SENTENCES.add(new String[] {String.valueOf(promise), words});
+    askedAhead = asked;
+  }
+
+  private static void endSentence() {
+    if (!SENTENCES.isEmpty() && asked == askedAhead) {
+      wrong++;
+      System.out.println(heading() + "nothing was compared");
+    }
+  }
+
+  private static String heading() {
+    if (SENTENCES.isEmpty()) return "";
+    String[] last = SENTENCES.get(SENTENCES.size() - 1);
+    return "promise " + last[0] + " [" + last[1] + "]: ";
+  }
+
+  static List<String[]> sentences() {
+    return SENTENCES;
   }
 
   static void is(String call, long got, long want) {
     asked++;
     if (got != want) {
       wrong++;
-      System.out.println(call + " answered " + got + ", due is " + want);
+      System.out.println(heading() + call + " answered " + got + ", due is " + want);
     }
   }
 
@@ -21,6 +52,8 @@ final class Due {
   }
 
   static void end() {
+    endSentence();
+    if (!SENTENCES.isEmpty()) System.out.println(SENTENCES.size() + " sentences looked at");
     System.out.println(asked + " answers compared, " + wrong + " wrong");
     if (wrong != 0 || asked == 0) System.exit(1);
   }
