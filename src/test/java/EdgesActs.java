@@ -14,6 +14,7 @@ final class EdgesActs {
     image();
     undo();
     undoWhole();
+    undoSheets();
     undoSettings();
     count();
   }
@@ -236,6 +237,43 @@ final class EdgesActs {
       Due.are("all that is seen", Seen.of(x), before);
       Due.is("setting(): the old tape", x.setting(), 1);
       Due.is("told(1): the old tape", x.told(1), 10 + n);
+    }
+  }
+
+  /** Each number of each row told by hand is changed alone, and is to come back. */
+  private static void undoSheets() {
+    Due.sentence(40, "THE IMAGE: all that there is (but THE IMAGE and THE TRACE).");
+    ChoirRoof x = Due.stones(Due.choir(0, -1), 5, 1);
+    Due.read(x, "draught 10 s=1");
+    int[][] dust = {{0, 0}, {1, 1}};
+    int[][] others = {{1, 0}, {1, 0}};
+    for (int i = 0; i < 2; i++) {
+      x.dust(-1, 0);
+      x.dust(0, 0);
+      x.dust(dust[i][0], dust[i][1]);
+      x.image();
+      x.dust(-1, 0);
+      x.dust(0, 0);
+      x.dust(others[i][0], others[i][1]);
+      Due.is("flat(), another row of DUST", x.flat(), 0);
+      x.undo();
+      Due.is("flat(), the row of THE IMAGE", x.flat(), 1);
+    }
+    x.dust(-1, 0);
+    x.book(0, 5);
+    x.plan(0, 0);
+    x.image();
+    for (int[] row : new int[][] {{1, 5, 0}, {0, 4, -1}}) {
+      x.book(-1, 0);
+      x.book(row[0], row[1]);
+      x.plan(-1, 0);
+      x.sing(0, -1);
+      x.plan(row[0], row[2]);
+      Due.is("planned(1), another row of the PLAN", x.planned(1), 0);
+      Due.is("looked(), another row of BOOK", x.looked(), 0);
+      x.undo();
+      Due.is("planned(1), the row of THE IMAGE", x.planned(1), 5);
+      Due.is("looked(), the row of THE IMAGE", x.looked(), -5);
     }
   }
 

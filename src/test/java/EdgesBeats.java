@@ -81,6 +81,12 @@ final class EdgesBeats {
     Due.is("on(18, 1), one has fallen before", z.on(18, 1), -5);
     Due.is("on(40, 1), one has fallen before", z.on(40, 1), 20);
     Due.is("on(40, 1), no stones", Due.choir(0).on(40, 1), -5);
+    ChoirRoof w = Due.stones(Due.choir(0, 4, 7), 30, 25);
+    Due.read(w, "weary 10");
+    Due.is("on(6, 0), falls by the second", w.on(6, 0), 1);
+    Due.is("on(7, 0), falls by the second and by the seventh", w.on(7, 0), 2);
+    Due.is("on(7, 1), the first of both", w.on(7, 1), 2);
+    Due.is("on(40, 1), the first of both", w.on(40, 1), 2);
     Due.sentence(14, "how many STONES have FALLEN behind them");
     Due.is("on(0, 0), one has fallen before", z.on(0, 0), 1);
     Due.is("on(19, 0)", z.on(19, 0), 1);
@@ -137,6 +143,9 @@ final class EdgesBeats {
     Due.is("of(1, 3): but it is not sung", x.of(1, 3), 6);
     Due.sentence(16, "ALL is most (of several the least); that ALL.");
     Due.is("best(0, 0), all alike", Due.choir(11).best(0, 0), 0);
+    Due.is("best(0, 0), all alike, its own is the least", Due.choir(0).best(0, 0), 0);
+    Due.is("best(0, 1), all alike, its own is the least", Due.choir(0).best(0, 1), 5);
+    Due.is("best(1, 0), its own is not the least", Due.choir(0, 4).best(1, 0), 0);
     ChoirRoof y = Due.choir(11, -1);
     y.singer(2, 0, 4);
     Due.is("best(1, 0): 2, 3, 4, 6, 7, 8, 11 alike", y.best(1, 0), 2);
@@ -276,6 +285,18 @@ final class EdgesBeats {
     for (int i = 0; i < 3; i++) x.sing(i, i);
     x.stone(9);
     Due.is("shift(1, 2): one by 9 goes ahead of two by 10", x.shift(1, 2), 4);
+    int[][] six = {{60, 60, 0, 15}, {60, 60, 1, 31}, {60, 60, 60, 31}};
+    for (int[] s : six) {
+      ChoirRoof y = Due.stones(Due.choir(0, 0, 0, 0, 0, 0), s[0], s[1]);
+      if (s[2] > 0) y.stone(s[2]);
+      Due.is("shift(1, 2) of six, by " + s[0] + ", " + s[1] + ", " + s[2], y.shift(1, 2), s[3]);
+      Due.is("shift(1, 0) of six, by " + s[0] + ", " + s[1] + ", " + s[2], y.shift(1, 0), Integer.bitCount(s[3]));
+      y.stone(21);
+      y.stone(60);
+      y.stone(60 - s[2]);
+      Due.is("shift(1, 2) of six, the most that they can bear", y.shift(1, 2), 63);
+      Due.is("shift(1, 0) of six, the most that they can bear", y.shift(1, 0), 6);
+    }
     Due.sentence(20, "that set of those who sing now sings, with their NOTES (all others rest)");
     Due.is("shift(1, 2): who rests now does not sing", Due.stones(Due.choir(-1, 0, -1, 0), 20).shift(1, 2), 10);
     ChoirRoof y = Due.stones(Due.choir(0, 0, 0, 0), 18);
@@ -372,11 +393,23 @@ final class EdgesBeats {
     Due.is("canon(4, 1): 1 is not 2", x.canon(4, 1), 5);
     Due.is("canon(5, 1): then 2 again", x.canon(5, 1), 0);
     Due.is("canon(30, 1), alone: it is ahead of itself", Due.choir(4).canon(30, 1), 4);
+    ChoirRoof six = Due.choir(-1, -1, -1, -1, -1, 0);
+    Due.read(six, "draught 9 s=0");
+    Due.is("canon(1, 1) of six: the last sings", six.canon(1, 1), 5);
+    Due.is("canon(2, 1) of six: then the first", six.canon(2, 1), 0);
+    Due.read(six, "draught 9 s=5&b>0");
+    Due.is("canon(6, 1) of six: then all the others", six.canon(6, 1), 5);
+    Due.is("canon(7, 1) of six: then the last again", six.canon(7, 1), 0);
     Due.sentence(22, "who can not sing it rests");
     ChoirRoof y = Due.choir(11, -1);
     y.singer(0, 0, 12);
     Due.is("canon(2, 1): 1 can", y.canon(2, 1), 5);
     Due.is("canon(3, 1): 2 can not", y.canon(3, 1), 0);
+    ChoirRoof both = Due.choir(11);
+    both.singer(0, 0, 12);
+    both.sing(1, 12);
+    Due.is("canon(1, 1): each its own", both.canon(1, 1), 10);
+    Due.is("canon(2, 1): neither keeps its own", both.canon(2, 1), 0);
     ChoirRoof z = Due.choir(11);
     z.singer(0, 0, 11);
     z.singer(0, 0, 0);

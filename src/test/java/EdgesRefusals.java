@@ -253,7 +253,8 @@ final class EdgesRefusals {
   private static void lastBeat() {
     Due.sentence(13, "They change nothing.");
     ChoirRoof x = some();
-    while (x.told(0) < 99999) x.beat();
+    for (int b = 1; b < 99999; b++) x.beat();
+    Due.is("told(0)", x.told(0), 99999);
     x.tire(0, 5);
     x.tire(3, 5);
     x.prop(0, false);

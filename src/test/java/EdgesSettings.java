@@ -87,6 +87,12 @@ final class EdgesSettings {
     Due.is("setting(), a fault at the end", x.setting(), -11);
     Due.is("count(6) by a fault at the end", x.count(6), 0);
     Due.is("setting(): nothing is left of both", Due.read(x, "ease 9"), 1);
+    StringBuilder lengthy = new StringBuilder("loud 9 s=0");
+    while (lengthy.length() < 96) lengthy.append("|s=0");
+    ChoirRoof w = Due.choir(0);
+    for (int i = 0; i < 4; i++) Due.is("a long fault", Due.read(w, lengthy + "|"), -10 - lengthy.length() - 1);
+    Due.is("setting() behind four long faults", Due.read(w, "loud 3 s=1|s=0"), 0);
+    Due.is("of(0, 5): nothing is left of them", w.of(0, 5), 13);
     Due.sentence(3, "-10 less the FAULT (the one that held holds)");
     ChoirRoof y = Due.choir(0);
     Due.is("a fault without any", Due.read(y, "ease 8;weary 8;loud 8 s=0;x"), -36);
@@ -101,6 +107,9 @@ final class EdgesSettings {
     Due.is("count(2): a fault has no number", y.count(2), 1);
     Due.is("setting(), the next number", Due.read(y, "ease 1"), 1);
     Due.is("of(0, 5): nothing is left of the fault", y.of(0, 5), 10);
+    Due.is("a fault of more clauses", Due.read(y, "loud 8 s=0;loud 9 s=0;loud 9 s=0;x"), -43);
+    Due.is("setting() of fewer clauses", Due.read(y, "loud 5 s=0"), 2);
+    Due.is("of(0, 5): nothing is left of the other clauses", y.of(0, 5), 15);
     Due.sentence(3, "SETTINGS are numbered from 0 on, 5 at most; the newest one holds");
     ChoirRoof z = new ChoirRoof();
     for (int i = 0; i < 5; i++) {
@@ -148,6 +157,11 @@ final class EdgesSettings {
     ChoirRoof x = new ChoirRoof();
     Due.is("ten", Due.read(x, nine + "weary 7"), 0);
     Due.is("told(2): the tenth counts", x.told(2), 7);
+    ChoirRoof y = Due.choir(0);
+    Due.is("ten", Due.read(y, nine + "loud 7 s=0"), 0);
+    Due.is("of(0, 5): the tenth counts", y.of(0, 5), 17);
+    Due.is("ten with a long one", Due.read(y, "loud 7 s=0;" + nine.substring(7) + "draught 2 s=0"), 1);
+    Due.is("of(0, 5): the first and the tenth count", y.of(0, 5), 15);
     fault(nine + "weary 7;", 70);
     fault(nine + "weary 7;ease 1", 70);
     Due.sentence(3, "one blank ahead of each part behind the word");
@@ -393,6 +407,12 @@ final class EdgesSettings {
     holds("s=0|s=0|s=1", true);
     holds("s=1&s=1&s=0", false);
     holds("s=0|s=1&s=1|s=0", true);
+    holds("s=1&!s<0", true);
+    holds("s=1&!s<0&!s<0&s=1", true);
+    holds("s<0|s=1", true);
+    holds("s=1&s<0", false);
+    holds("(s=0|(s=1&(!s=0|s=0)))&!(s=0&s=1)", true);
+    holds("(s=1&(s=0|(s=1&(s=0|s=0))))|s=0", false);
     Due.sentence(3, "STRENGTH, the n of all loud whose E holds, less those of all draught");
     ChoirRoof x = Due.choir(0);
     Due.is("setting() of four that hold", Due.read(x, "loud 99 s=0;loud 99 k=0;draught 3 n=0;draught 4 b=0;loud 50 s=1;draught 50 s=1"), 0);

@@ -51,6 +51,7 @@ final class EdgesStones {
     Due.is("critical(0), all are LOOSE as it is", Due.stones(Due.choir(0, 0, 0), 60, 60).critical(0), 0);
     Due.is("critical(0), no stones", Due.choir(0, 0).critical(0), 0);
     Due.is("critical(0), all six", Due.stones(Due.choir(0, 0, 0, 0, 0, 0), 60, 60, 60).critical(0), 15);
+    Due.is("critical(0), one can rest and three can not", Due.stones(Due.choir(0, 4, 7, 1), 40, 20).critical(0), 0);
     ChoirRoof x = Due.choir(0, 0, 0, 11);
     Due.stones(x, 6);
     Due.is("critical(0): three in tune and one alone", x.critical(0), 0);
@@ -135,6 +136,14 @@ final class EdgesStones {
     z.stone(20);
     z.dust(1, 0);
     Due.is("flat(): one lower than its RANGE, 4 and 0", z.flat(), 3);
+    ChoirRoof v = new ChoirRoof();
+    v.singer(0, 0, 0);
+    v.singer(0, 0, 3);
+    v.sing(0, 0);
+    v.sing(1, 3);
+    v.stone(20);
+    v.dust(1, 1);
+    Due.is("flat(): one lower than its RANGE, 2 and 0", v.flat(), 2);
     Due.is("flat(): 0 and 4, 0 and 3", flatOf(0, 4, 0), 3);
     Due.is("flat(): 0 and 3 but not 0 and 2", flatOf(0, 3, 0), 1);
     Due.is("flat(): 0 and 2, told that it fell", flatOf(0, 3, 1), 2);
