@@ -9,6 +9,7 @@ final class Due {
   private static int asked = 0;
   private static int wrong = 0;
   private static int askedAhead = 0;
+  private static boolean inSentence = false;
 
   private Due() {
   }
@@ -18,17 +19,20 @@ final class Due {
     endSentence();
     SENTENCES.add(new String[] {String.valueOf(promise), words});
     askedAhead = asked;
+    inSentence = true;
   }
 
-  private static void endSentence() {
-    if (!SENTENCES.isEmpty() && asked == askedAhead) {
+  /** What is compared from here on belongs to no sentence. */
+  static void endSentence() {
+    if (inSentence && asked == askedAhead) {
       wrong++;
       System.out.println(heading() + "nothing was compared");
     }
+    inSentence = false;
   }
 
   private static String heading() {
-    if (SENTENCES.isEmpty()) return "";
+    if (!inSentence) return "";
     String[] last = SENTENCES.get(SENTENCES.size() - 1);
     return "promise " + last[0] + " [" + last[1] + "]: ";
   }
